@@ -498,7 +498,7 @@ public final class PieceDeposits {
         }
 
         static long join(long row, int k, long tail) {
-            return row | tail << BITS * k;
+            return row | (tail << BITS * k);
         }
 
         static int letterAt(long row, int k) {
@@ -518,7 +518,7 @@ public final class PieceDeposits {
         }
 
         static long section(long row, int start, int length) {
-            return row >>> BITS * start & (1L << BITS * length) - 1;
+            return (row >>> BITS * start) & ((1L << BITS * length) - 1);
         }
 
         static boolean spell(long row, String text) {
@@ -907,15 +907,16 @@ public final class PieceDeposits {
         int passTick() {
             time++;
             int before = pieces.count;
-            int went = 0;
-            for (int seen = 0; seen < before; seen++) {
-                int piece = seen - went;
+            int piece = 0;
+            for (int seen = 0; seen < before && piece < pieces.count; seen++) {
                 if (pieces.goesBack(piece, time, settings[KEEP])) {
+                    // The next piece has this one's number then.
                     sendBack(piece);
-                    went++;
+                } else {
+                    piece++;
                 }
             }
-            return went;
+            return before - pieces.count;
         }
 
         private void sendBack(int piece) {

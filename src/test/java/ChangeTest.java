@@ -10,6 +10,7 @@ final class ChangeTest {
         promise24Refusals();
         promise24WrongInputs();
         promise25Remove();
+        promise25WordsBehind();
         promise26Recut();
         promise26Ties();
         promise27RecutAll();
@@ -128,6 +129,26 @@ final class ChangeTest {
         Check.due("no change", x.size(11), 3);
     }
 
+    private static void promise25WordsBehind() {
+        PieceDeposits x = Feed.book("book 50 0 2 5 50;user a 900;user b 900;user c 900;piece p;"
+                + "piece q;piece r;word a pq;word b qrp;word c r;word a rrrr;word b p;");
+        x.remove(1);
+        String[] words = {"p.q", "r", "r.r.r.r", "p"};
+        int[] users = {0, 2, 0, 1};
+        Check.due("words", x.size(2), 4);
+        for (int word = 0; word < words.length; word++) {
+            Check.dueText("cutting " + word, Feed.cutting(x, word), words[word]);
+            Check.due("user of " + word, x.word(word, 0), users[word]);
+            Check.due("pieces of " + word, x.word(word, 2), (words[word].length() + 1) / 2);
+        }
+        x.remove(3);
+        x.remove(0);
+        Check.dueText("cutting 0", Feed.cutting(x, 0), "r");
+        Check.dueText("cutting 1", Feed.cutting(x, 1), "r.r.r.r");
+        Check.due("words", x.size(2), 2);
+        Check.due("whole", x.isWhole(), true);
+    }
+
     private static void promise26Recut() {
         PieceDeposits x = Feed.book("book 20 0 4 9 0;user a 500;user b 500;piece a;piece b;piece c;"
                 + "word a abcb;word b cb;");
@@ -167,6 +188,14 @@ final class ChangeTest {
         PieceDeposits y = Feed.book("book 0 0 4 20 0;user a 500;word a aaaaaaaaaaab;");
         Check.due("recut", y.recut(0), 0);
         Check.due("pieces", y.size(1), 2);
+        // The new piece ghijkl would be worth its price 2, but it is not in the book.
+        PieceDeposits w = Feed.book("book 2 0 3 9 0;user a 500;piece abcd;piece efgh;piece ijkl;"
+                + "word a abcdefghijkl;");
+        bring(w, "abcdef", 0);
+        Check.due("fewest", w.fewest(0), 3);
+        Check.due("nothing back", w.recut(0), 0);
+        Check.dueText("the same cutting", Feed.cutting(w, 0), "abcd.efgh.ijkl");
+        Check.due("of known pieces", w.part(0, 2), 2);
         // A piece in both cuttings is never without uses.
         PieceDeposits z = Feed.book("book 20 0 4 0 0;user a 500;word a abcdef;");
         z.tick(5);
@@ -306,6 +335,17 @@ final class ChangeTest {
         Check.due("with less numbers", x.part(2, 1), 1);
         Check.due("or the same", x.part(2, 2), 0);
         Check.due("uses of cc", x.piece(1, 3), 2);
+        PieceDeposits y = Feed.book("book 10 1 3 2 50;user a 500;user b 500;piece a;");
+        bring(y, "bb", 0);
+        y.tick(1);
+        bring(y, "ccc", 1);
+        y.tick(2);
+        Check.due("ccc stays", y.size(1), 2);
+        Check.due("its letters", y.piece(1, 0), 3);
+        Check.due("its price", y.piece(1, 1), 13);
+        Check.due("its owner", y.piece(1, 2), 1);
+        Check.due("its uses", y.piece(1, 3), 0);
+        Check.due("idle since", y.piece(1, 4), 1);
         Check.due("whole", x.isWhole(), true);
         Check.due("no more", x.tick(5), 0);
     }

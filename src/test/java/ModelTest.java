@@ -73,8 +73,8 @@ final class ModelTest {
     }
 
     private void callOne() {
-        int user = random.nextInt(20) == 0 ? random.nextInt(7) - 1 : random.nextInt(3);
-        int what = random.nextInt(9) - 1;
+        int user = wild(random.nextInt(20) == 0 ? random.nextInt(7) - 1 : random.nextInt(3));
+        int what = wild(random.nextInt(9) - 1);
         switch (random.nextInt(31)) {
             case 0: case 1: case 2: case 3: case 4: case 5: case 6:
                 putWord();
@@ -96,8 +96,8 @@ final class ModelTest {
                 compare("bring(" + user + ")", () -> x.bring(user), () -> m.bring(user));
                 break;
             case 16: case 17:
-                int ticks = random.nextInt(20) == 0 ? random.nextInt(34) - 1
-                        : 1 + random.nextInt(3);
+                int ticks = wild(random.nextInt(20) == 0 ? random.nextInt(34) - 1
+                        : 1 + random.nextInt(3));
                 compare("tick(" + ticks + ")", () -> x.tick(ticks), () -> m.tick(ticks));
                 break;
             case 18:
@@ -131,8 +131,8 @@ final class ModelTest {
     private void askOne(int user, int what) {
         int word = someWord();
         int other = someWord();
-        int piece = random.nextInt(m.size(1) + 2) - 1;
-        int k = random.nextInt(14) - 1;
+        int piece = wild(random.nextInt(m.size(1) + 2) - 1);
+        int k = wild(random.nextInt(14) - 1);
         compare("ways " + word, () -> x.ways(word), () -> m.ways(word));
         compare("fewest " + word, () -> x.fewest(word), () -> m.fewest(word));
         compare("saving " + word, () -> x.saving(word), () -> m.saving(word));
@@ -149,17 +149,22 @@ final class ModelTest {
                 () -> m.piece(piece, what));
         compare("word " + word + " " + what, () -> x.word(word, what), () -> m.word(word, what));
         compare("part " + word + " " + k, () -> x.part(word, k), () -> m.part(word, k));
+        compare("wordLetter " + word + " " + k, () -> x.wordLetter(word, k),
+                () -> m.wordLetter(word, k));
+        compare("pieceLetter " + piece + " " + k, () -> x.pieceLetter(piece, k),
+                () -> m.pieceLetter(piece, k));
     }
 
     private void payOne(int user) {
-        int other = random.nextInt(3);
-        int coins = random.nextInt(20) == 0 ? 9990 + random.nextInt(20) : random.nextInt(60) - 1;
+        int other = wild(random.nextInt(3));
+        int coins = wild(random.nextInt(20) == 0 ? 9990 + random.nextInt(20)
+                : random.nextInt(60) - 1);
         compare("pay(" + user + ", " + other + ", " + coins + ")",
                 () -> x.pay(user, other, coins), () -> m.pay(user, other, coins));
     }
 
     private void snapshotOne() {
-        int slot = random.nextInt(10) == 0 ? random.nextInt(5) - 1 : random.nextInt(2);
+        int slot = wild(random.nextInt(10) == 0 ? random.nextInt(5) - 1 : random.nextInt(2));
         if (random.nextInt(3) == 0) {
             compare("restoreSnapshot(" + slot + ")", () -> x.restoreSnapshot(slot),
                     () -> m.restoreSnapshot(slot));
@@ -233,8 +238,17 @@ final class ModelTest {
 
     private int someWord() {
         int words = m.size(2);
-        return words == 0 || random.nextInt(25) == 0 ? random.nextInt(words + 2) - 1
-                : random.nextInt(words);
+        return wild(words == 0 || random.nextInt(25) == 0 ? random.nextInt(words + 2) - 1
+                : random.nextInt(words));
+    }
+
+    /** The number itself, or now and then one that no call can want. */
+    private int wild(int usual) {
+        if (random.nextInt(60) != 0) {
+            return usual;
+        }
+        int[] all = {Integer.MIN_VALUE, Integer.MAX_VALUE, -2, 64, 1 << 20, random.nextInt()};
+        return all[random.nextInt(all.length)];
     }
 
     private void putWord() {

@@ -11,6 +11,7 @@ final class TextTest {
         promise3ParseSuccess();
         promise3ParseClearsUndoAndSlots();
         promise3ParseErrorsChangeNothing();
+        promise3NothingIsLeft();
         promise3LengthOutOfRange();
         promise3And4Tokens();
         promise3And4Header();
@@ -114,6 +115,24 @@ final class TextTest {
         Check.due("but the buffer is empty", Feed.append(x, "a                   "), 20);
     }
 
+    /** A second text on the same object finds nothing of the first one. */
+    private static void promise3NothingIsLeft() {
+        PieceDeposits x = Feed.book("book 9 1 2 3 4;user abcdefghijkl 90;piece q;"
+                + "word abcdefghijkl qr;");
+        x.tick(9);
+        Check.due("a second text", Feed.parse(x, "book 1 0 1 0 0;user b 5;word b qr;"), 0);
+        Check.dueText("its book", Feed.state(x),
+                Feed.state(Feed.book("book 1 0 1 0 0;user b 5;word b qr;")));
+        Check.due("a third text", Feed.parse(x, "book 0 0 1 0 0;"), 0);
+        Check.dueText("its book", Feed.state(x), Feed.state(new PieceDeposits()));
+        Feed.parse(x, "book 0 0 1 0 0;user abcdefghijkl 99;");
+        Check.due("a shorter text", Feed.parse(x, "book 0 0 1 0 0;user ab"), 1);
+        Check.due("ends there", x.errorPosition(), 22);
+        Feed.put(x, "book 0 0 1 0 0;user ab 99;");
+        Check.due("a part of the buffer", x.parse(24), 1);
+        Check.due("ends there", x.errorPosition(), 24);
+    }
+
     private static void promise3LengthOutOfRange() {
         PieceDeposits x = Feed.put(new PieceDeposits(), "book 0 0 1 0 0;user ");
         Check.badArgument("parse(-1)", () -> x.parse(-1));
@@ -163,6 +182,12 @@ final class TextTest {
         error("   ", 1, 3);
         error("book", 1, 4);
         error("boo 0 0 1 0 0;", 1, 0);
+        error("look 0 0 1 0 0;", 1, 0);
+        error("book 0 0 1 0 0;tser a 1;", 1, 15);
+        error("book 0 0 1 0 0;niece a;", 1, 15);
+        error("book 0 0 1 0 0;lord a b;", 1, 15);
+        error("book 0 0 1 0 0;pieces a;", 1, 15);
+        error("book 0 0 1 0 0;words a b;", 1, 15);
         error(" books 0 0 1 0 0;", 1, 1);
         error("user a 1;", 1, 0);
         error("book ; 0 0 1 0 0;", 1, 5);

@@ -10,6 +10,7 @@ final class UndoTest {
 
     static void run() {
         promise31EachChange();
+        promise31IdleTimes();
         promise31TenChanges();
         promise31WhatIsNoChange();
         promise32SaveSnapshot();
@@ -25,6 +26,8 @@ final class UndoTest {
         PieceDeposits x = Feed.book("book 7 3 2 0 33;user a 400;user b 300;piece a;piece b;"
                 + "word a ab;word a ab;");
         String[] before = new String[8];
+        x.tick(2);
+        Feed.put(x, "uv").bring(1);
         before[0] = Feed.stateBesidesUndo(x);
         Feed.put(x, "abcabc").store(1);
         before[1] = Feed.stateBesidesUndo(x);
@@ -41,12 +44,30 @@ final class UndoTest {
         x.tick(3);
         before[7] = Feed.stateBesidesUndo(x);
         for (int i = 6; i >= 0; i--) {
-            Check.due("changes that can still be undone", x.undo(), i);
+            Check.due("changes that can still be undone", x.undo(), 2 + i);
             Check.dueText("state before change " + i, Feed.stateBesidesUndo(x), before[i]);
             Check.due("change " + i + " alters nothing", before[i].equals(before[i + 1]), false);
         }
+        x.undo();
+        x.undo();
+        String first = Feed.stateBesidesUndo(x);
         Check.due("none to undo", x.undo(), NONE);
-        Check.dueText("nothing changes", Feed.stateBesidesUndo(x), before[0]);
+        Check.dueText("nothing changes", Feed.stateBesidesUndo(x), first);
+    }
+
+    private static void promise31IdleTimes() {
+        PieceDeposits x = Feed.book("book 7 3 2 20 33;user a 400;piece a;");
+        x.tick(2);
+        Feed.put(x, "uv").bring(0);
+        Feed.put(x, "uv").store(0);
+        x.tick(3);
+        x.remove(0);
+        Check.due("idle since 5", x.piece(1, 4), 5);
+        x.undo();
+        Check.due("used", x.piece(1, 4), NONE);
+        x.undo();
+        x.undo();
+        Check.due("idle since 2", x.piece(1, 4), 2);
     }
 
     private static void promise31TenChanges() {

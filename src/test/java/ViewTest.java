@@ -45,6 +45,8 @@ final class ViewTest {
         dueAll("ann", user(x, 0), 100 - 6 - 17, 2, 9, 1, 14);
         dueAll("bob", user(x, 1), 80 - 19 - 6, 2, 9, 1, 16);
         dueAll("eve", user(x, 2), 5, 0, 0, 0, 0);
+        PieceDeposits y = Feed.book("book 10 2 3 1 50;user ann 100;word ann xyz;");
+        dueAll("piece 0 is ann's", user(y, 0), 81, 1, 3, 1, 16);
         Check.outOfBounds("user(3, 0)", () -> x.user(3, 0));
         Check.outOfBounds("user(-1, 0)", () -> x.user(-1, 0));
         Check.outOfBounds("user(most, 9)", () -> x.user(MOST, 9));

@@ -65,6 +65,8 @@ final class WouldBeTest {
         // Of the same cost, the fewest pieces.
         cutting("book 1 0 1 0 0;piece a;piece b;", "ab", "ab");
         cutting("book 2 0 1 0 0;piece a;piece b;", "ab", "a.b");
+        cutting("book 0 1 2 0 0;piece abcdef;piece gh;piece ij;piece k;piece abc;piece fghijk;",
+                "abcdefghijk", "abc.de.fghijk");
         // Of the same number of pieces, the longest first piece, then the longest second one.
         cutting("book 9 0 1 0 0;piece a;piece ab;piece bc;piece c;", "abc", "ab.c");
         cutting("book 9 0 1 0 0;piece a;piece ab;piece bc;piece c;", "abcabc", "ab.c.ab.c");
@@ -216,6 +218,15 @@ final class WouldBeTest {
         PieceDeposits w = Feed.book(letters + "word u abcd;piece abc;");
         Check.due("four pieces now", w.word(0, 2), 4);
         best(w, 0, 0, 4, 1);
+        // Parts of one letter and of six.
+        PieceDeposits t = Feed.book("book 99 0 1 0 0;user u 99;piece bcdefg;piece ab;piece cd;"
+                + "piece efg;word u abcdefg;");
+        best(t, 0, 0, 1, 1);
+        best(Feed.book(letters + "word u abcdab;"), 0, 0, 6, 5);
+        best(Feed.book(letters + "word u abcdabd;"), 0, 0, 6, 5);
+        // A word that was removed does not count.
+        y.remove(2);
+        best(y, 0, 0, 4, 3);
         // Also with 24 pieces in the book a part would help.
         PieceDeposits v = Feed.book(letters + "piece e;piece f;piece g;piece h;piece i;piece j;"
                 + "piece k;piece l;piece m;piece n;piece o;piece p;piece q;piece r;piece s;"
