@@ -11,6 +11,13 @@ public final class AllTests {
         WouldBeTest.run();
         ChangeTest.run();
         UndoTest.run();
+        BufferEdgeTest.run();
+        TextEdgeTest.run();
+        ViewEdgeTest.run();
+        WouldBeEdgeTest.run();
+        ChangeEdgeTest.run();
+        UndoEdgeTest.run();
+        RefusalTest.run();
         FaceTest.run();
         ModelTest.run();
         System.out.println(Check.right() + " passed, " + Check.wrong() + " failed");

@@ -36,6 +36,10 @@ final class Check {
         note(what + " throws", thrownBy(call), "IllegalStateException");
     }
 
+    static void dueThrown(String what, Call call, String want) {
+        note(what + " throws", thrownBy(call), want);
+    }
+
     static int right() {
         return right;
     }

@@ -38,16 +38,20 @@ final class Feed {
 
     static String piece(PieceDeposits x, int piece) {
         StringBuilder letters = new StringBuilder();
-        for (int k = 0; x.pieceLetter(piece, k) != PieceDeposits.NONE; k++) {
-            letters.append((char) ('a' + x.pieceLetter(piece, k)));
+        int letter = x.pieceLetter(piece, 0);
+        while (letter != PieceDeposits.NONE) {
+            letters.append((char) ('a' + letter));
+            letter = x.pieceLetter(piece, letters.length());
         }
         return letters.toString();
     }
 
     static String word(PieceDeposits x, int word) {
         StringBuilder letters = new StringBuilder();
-        for (int k = 0; x.wordLetter(word, k) != PieceDeposits.NONE; k++) {
-            letters.append((char) ('a' + x.wordLetter(word, k)));
+        int letter = x.wordLetter(word, 0);
+        while (letter != PieceDeposits.NONE) {
+            letters.append((char) ('a' + letter));
+            letter = x.wordLetter(word, letters.length());
         }
         return letters.toString();
     }
@@ -55,8 +59,10 @@ final class Feed {
     /** The cutting of a word, such as ab.c */
     static String cutting(PieceDeposits x, int word) {
         StringBuilder parts = new StringBuilder();
-        for (int k = 0; x.part(word, k) != PieceDeposits.NONE; k++) {
-            parts.append(k == 0 ? "" : ".").append(piece(x, x.part(word, k)));
+        int part = x.part(word, 0);
+        for (int k = 1; part != PieceDeposits.NONE; k++) {
+            parts.append(k == 1 ? "" : ".").append(piece(x, part));
+            part = x.part(word, k);
         }
         return parts.toString();
     }
