@@ -2,8 +2,11 @@ import java.util.Random;
 
 /** Holds the class against the model over many runs of calls, the same ones each time. */
 final class ModelTest {
-    private static final int RUNS = 150;
-    private static final int CALLS = 220;
+    /** What an object answers behind so many calls is free. */
+    private static final int CALLS = 512;
+    /** The most that one step of a run calls: it may append a text of 600 bytes, and parse it. */
+    private static final int CALLS_OF_A_STEP = 35;
+    private static final int RUNS = 1500;
     private static final int TEXTS = 3000;
 
     private final Random random;
@@ -12,6 +15,7 @@ final class ModelTest {
     private final String run;
     private final String alphabet;
     private String call = "";
+    private int calls = 0;
 
     private ModelTest(String name, long seed) {
         run = name + " " + seed;
@@ -30,25 +34,39 @@ final class ModelTest {
 
     private void callAll() {
         parse(goodText());
-        for (int i = 0; i < CALLS; i++) {
+        int askedAbout = random.nextInt(8);
+        while (calls + CALLS_OF_A_STEP <= CALLS) {
             callOne();
-            if (i % 10 == 0) {
-                compareState();
+            for (int i = 0; i < askedAbout && calls + CALLS_OF_A_STEP <= CALLS; i++) {
+                askAboutState();
             }
         }
-        compareState();
+        askToTheEnd();
     }
 
     private void parseBroken() {
         for (int i = 0; i < 3; i++) {
-            StringBuilder text = new StringBuilder(goodText());
-            int faults = random.nextInt(3);
-            for (int f = 0; f < faults && text.length() > 1; f++) {
-                breakOne(text);
-            }
-            parse(text.toString());
+            parse(brokenText());
         }
-        compareState();
+        for (int i = 0; i < 100; i++) {
+            askAboutState();
+        }
+    }
+
+    private void askToTheEnd() {
+        while (calls < CALLS) {
+            askAboutState();
+        }
+    }
+
+    /** A text with no, one or two faults. */
+    private String brokenText() {
+        StringBuilder text = new StringBuilder(goodText());
+        int faults = random.nextInt(3);
+        for (int f = 0; f < faults && text.length() > 1; f++) {
+            breakOne(text);
+        }
+        return text.toString();
     }
 
     private void breakOne(StringBuilder text) {
@@ -122,6 +140,11 @@ final class ModelTest {
                 putWord();
                 compare("find(" + what + ")", () -> x.find(what), () -> m.find(what));
                 break;
+            case 25:
+                if (random.nextInt(5) == 0) {
+                    parse(brokenText());
+                }
+                break;
             default:
                 askOne(user, what);
                 break;
@@ -174,48 +197,59 @@ final class ModelTest {
         }
     }
 
-    private void compareState() {
-        for (int what = 0; what < 12; what++) {
-            int w = what;
-            compare("size " + w, () -> x.size(w), () -> m.size(w));
-        }
-        for (int what = 0; what < 6; what++) {
-            int w = what;
-            compare("account " + w, () -> x.account(w), () -> m.account(w));
-        }
-        for (int user = 0; user < m.size(0); user++) {
-            for (int what = 0; what < 5; what++) {
-                int u = user;
-                int w = what;
-                compare("user " + u + " " + w, () -> x.user(u, w), () -> m.user(u, w));
-            }
-        }
-        for (int piece = 0; piece < m.size(1); piece++) {
-            comparePiece(piece);
-        }
-        for (int word = 0; word < m.size(2); word++) {
-            compareWord(word);
-        }
-        compare("errorPosition", () -> x.errorPosition(), () -> m.errorPosition());
-        Check.due(run + ": isWhole", x.isWhole(), true);
-    }
-
-    private void comparePiece(int piece) {
-        for (int k = -1; k < 8; k++) {
-            int j = k;
-            compare("piece " + piece + " " + j, () -> x.piece(piece, j), () -> m.piece(piece, j));
-            compare("pieceLetter " + piece + " " + j, () -> x.pieceLetter(piece, j),
-                    () -> m.pieceLetter(piece, j));
+    /** One call that asks for something of what is there. */
+    private void askAboutState() {
+        int size = random.nextInt(12);
+        int sum = random.nextInt(6);
+        switch (random.nextInt(8)) {
+            case 0:
+                compare("size " + size, () -> x.size(size), () -> m.size(size));
+                break;
+            case 1:
+                compare("account " + sum, () -> x.account(sum), () -> m.account(sum));
+                break;
+            case 2:
+                compare("errorPosition", () -> x.errorPosition(), () -> m.errorPosition());
+                break;
+            case 3:
+                compare("isWhole", () -> x.isWhole() ? 1 : 0, () -> 1);
+                break;
+            case 4:
+                int user = random.nextInt(Math.max(1, m.size(0)));
+                int what = random.nextInt(5);
+                compare("user " + user + " " + what, () -> x.user(user, what),
+                        () -> m.user(user, what));
+                break;
+            case 5:
+                askAboutPiece(random.nextInt(Math.max(1, m.size(1))), random.nextInt(9) - 1);
+                break;
+            default:
+                askAboutWord(random.nextInt(Math.max(1, m.size(2))), random.nextInt(15) - 1);
+                break;
         }
     }
 
-    private void compareWord(int word) {
-        for (int k = -1; k < 14; k++) {
-            int j = k;
-            compare("word " + word + " " + j, () -> x.word(word, j), () -> m.word(word, j));
-            compare("part " + word + " " + j, () -> x.part(word, j), () -> m.part(word, j));
-            compare("wordLetter " + word + " " + j, () -> x.wordLetter(word, j),
-                    () -> m.wordLetter(word, j));
+    private void askAboutPiece(int piece, int k) {
+        if (random.nextBoolean()) {
+            compare("piece " + piece + " " + k, () -> x.piece(piece, k), () -> m.piece(piece, k));
+        } else {
+            compare("pieceLetter " + piece + " " + k, () -> x.pieceLetter(piece, k),
+                    () -> m.pieceLetter(piece, k));
+        }
+    }
+
+    private void askAboutWord(int word, int k) {
+        switch (random.nextInt(3)) {
+            case 0:
+                compare("word " + word + " " + k, () -> x.word(word, k), () -> m.word(word, k));
+                break;
+            case 1:
+                compare("part " + word + " " + k, () -> x.part(word, k), () -> m.part(word, k));
+                break;
+            default:
+                compare("wordLetter " + word + " " + k, () -> x.wordLetter(word, k),
+                        () -> m.wordLetter(word, k));
+                break;
         }
     }
 
@@ -223,6 +257,7 @@ final class ModelTest {
         if (what.indexOf('(') > 0) {
             call = what;
         }
+        calls++;
         Check.dueText(run + " after " + call + ": " + what, answer(ours), answer(due));
     }
 

@@ -22,37 +22,32 @@ final class UndoTest {
         return Feed.book(BOOK);
     }
 
+    /** Each kind of change, in a row in which each of them alters something. */
+    private static final Refusal.Use[] CHANGES = {
+        x -> x.tick(2),
+        x -> Feed.put(x, "uv").bring(1),
+        x -> Feed.put(x, "abcabc").store(1),
+        x -> Feed.put(x, "ab").bring(0),
+        x -> x.recut(0),
+        x -> x.recutAll(),
+        x -> x.remove(1),
+        x -> x.pay(0, 1, 9),
+        x -> x.tick(3)};
+
     private static void promise31EachChange() {
-        PieceDeposits x = Feed.book("book 7 3 2 0 33;user a 400;user b 300;piece a;piece b;"
-                + "word a ab;word a ab;");
-        String[] before = new String[8];
-        x.tick(2);
-        Feed.put(x, "uv").bring(1);
-        before[0] = Feed.stateBesidesUndo(x);
-        Feed.put(x, "abcabc").store(1);
-        before[1] = Feed.stateBesidesUndo(x);
-        Feed.put(x, "ab").bring(0);
-        before[2] = Feed.stateBesidesUndo(x);
-        x.recut(0);
-        before[3] = Feed.stateBesidesUndo(x);
-        x.recutAll();
-        before[4] = Feed.stateBesidesUndo(x);
-        x.remove(1);
-        before[5] = Feed.stateBesidesUndo(x);
-        x.pay(0, 1, 9);
-        before[6] = Feed.stateBesidesUndo(x);
-        x.tick(3);
-        before[7] = Feed.stateBesidesUndo(x);
-        for (int i = 6; i >= 0; i--) {
-            Check.due("changes that can still be undone", x.undo(), 2 + i);
-            Check.dueText("state before change " + i, Feed.stateBesidesUndo(x), before[i]);
-            Check.due("change " + i + " alters nothing", before[i].equals(before[i + 1]), false);
+        for (int last = 0; last < CHANGES.length; last++) {
+            PieceDeposits x = Feed.book("book 7 3 2 0 33;user a 400;user b 300;piece a;piece b;"
+                    + "word a ab;word a ab;");
+            for (int i = 0; i < last; i++) {
+                CHANGES[i].of(x);
+            }
+            String before = Feed.stateBesidesUndo(x);
+            CHANGES[last].of(x);
+            String after = Feed.stateBesidesUndo(x);
+            Check.due("change " + last + " alters nothing", before.equals(after), false);
+            Check.due("changes that can still be undone", x.undo(), last);
+            Check.dueText("state before change " + last, Feed.stateBesidesUndo(x), before);
         }
-        x.undo();
-        x.undo();
-        String first = Feed.stateBesidesUndo(x);
-        Check.due("none to undo", x.undo(), NONE);
-        Check.dueText("nothing changes", Feed.stateBesidesUndo(x), first);
     }
 
     private static void promise31IdleTimes() {

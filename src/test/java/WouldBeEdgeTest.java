@@ -23,6 +23,7 @@ final class WouldBeEdgeTest {
         promise15Ways();
         promise16Fewest();
         promise17Saving();
+        promise15To18PiecesOfTheBookAlone();
         promise18LeastGain();
         promise18PartsOf1To6Letters();
         promise18NotInTheBook();
@@ -289,6 +290,33 @@ final class WouldBeEdgeTest {
         Check.due("10 pieces", x.saving(1), 90);
         Check.due("as told", x.recut(1), 90);
         Check.due("nothing more", x.saving(1), 0);
+    }
+
+    /** A word abcdefghijkl of three known pieces, which a new piece of 6 letters would help. */
+    private static PieceDeposits newPieceWouldBeCheaper() {
+        PieceDeposits x = Feed.book("book 2 0 3 9 0;user u 99;piece abcd;piece efgh;piece ijkl;"
+                + "word u abcdefghijkl;");
+        Feed.put(x, "abcdef").bring(0);
+        return x;
+    }
+
+    /** Into pieces that are in the book now: ghijkl is not, cheap as it is. */
+    private static void promise15To18PiecesOfTheBookAlone() {
+        PieceDeposits x = newPieceWouldBeCheaper();
+        Check.due("a new one is cheaper", Feed.put(x, "abcdefghijkl").quote(4), 1);
+        Check.due("ways", x.ways(0), 1);
+        Check.due("fewest", x.fewest(0), 3);
+        Check.due("saving", x.saving(0), 0);
+        best(x, 0, 6, 6, 1);
+        Check.due("recut", x.recut(0), 0);
+        Check.due("recutAll", x.recutAll(), 0);
+        Check.dueText("as before", Feed.cutting(x, 0), "abcd.efgh.ijkl");
+        Feed.put(x, "ghijkl").bring(0);
+        Check.due("ways", x.ways(0), 2);
+        Check.due("fewest", x.fewest(0), 2);
+        Check.due("saving", x.saving(0), 3);
+        best(x, 0, NONE, NONE, NONE);
+        Check.due("recut", x.recut(0), 3);
     }
 
     // ---- promise 18
