@@ -18,6 +18,7 @@ public final class AllTests {
         ChangeEdgeTest.run();
         UndoEdgeTest.run();
         RefusalTest.run();
+        FullTest.run();
         FaceTest.run();
         ModelTest.run();
         System.out.println(Check.right() + " passed, " + Check.wrong() + " failed");

@@ -205,6 +205,10 @@ final class TextEdgeTest {
         error(BOOK + "user a 1;word a b c;", 1, 33);
         error(BOOK + "user a 1;word a b;;", 1, 33);
         error(BOOK + BOOK, 1, 15);
+        error("look 0 0 1 0 0;", 1, 0);
+        error(BOOK + "tser a 1;", 1, 15);
+        error(BOOK + "niece a;", 1, 15);
+        error(BOOK + "lord a b;", 1, 15);
         error(BOOK + "use a 1;", 1, 15);
         error(BOOK + "users a 1;", 1, 15);
         error(BOOK + "piec a;", 1, 15);

@@ -88,9 +88,12 @@ final class WouldBeEdgeTest {
         cutting("book 0 1 2 0 0;piece ab;", "abcd", "abcd");
         cutting("book 0 1 3 0 0;piece ab;", "abcd", "abcd");
         cutting("book 0 1 1 0 0;piece ab;", "abcd", "ab.cd");
-        // The fewest pieces come before the longest first piece.
-        cutting("book 99 0 1 0 0;piece abc;piece d;piece e;piece ab;piece cde;", "abcde",
-                "ab.cde");
+        // The fewest pieces come before the longest first piece: with the deposit 2 abc.de.fghijk
+        // (de is new) costs 6 + 2 as abcdef.gh.ij.k does, with 1 it costs more.
+        String known = " 0 0;piece abcdef;piece gh;piece ij;piece k;piece abc;piece fghijk;";
+        cutting("book 0 1 1" + known, "abcdefghijk", "abcdef.gh.ij.k");
+        cutting("book 0 1 2" + known, "abcdefghijk", "abc.de.fghijk");
+        cutting("book 0 1 3" + known, "abcdefghijk", "abcdef.ghijk");
     }
 
     /** Of several such ones, the longest first piece, then the longest second piece, and so on. */
@@ -340,6 +343,9 @@ final class WouldBeEdgeTest {
         best(known("piece ab;piece bc;word u abc;"), 0, 0, 3, 1);
         best(known("piece abcdea;piece bcdeab;word u abcdeabcdeab;"), 0, NONE, NONE, NONE);
         best(known("piece abcdea;word u abcdeabcdeab;"), 0, 1, 6, 5);
+        // Two pieces in place of three: abcdef is used twice for this.
+        best(Feed.book("book 99 0 1 9 0;user u 99;piece abcd;piece efab;piece cdef;"
+                + "word u abcdefabcdef;"), 0, 0, 6, 1);
     }
 
     /** Each part of 1 to 6 letters of the word. */
