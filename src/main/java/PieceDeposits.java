@@ -144,7 +144,7 @@ public final class PieceDeposits {
         requireUser(user);
         switch (what) {
             case 0:
-                return book.users.coins[user];
+                return book.users.coinsOf(user);
             case 1:
                 return book.words.countOf(user);
             case 2:
@@ -290,7 +290,7 @@ public final class PieceDeposits {
         int best = NONE;
         int most = NONE;
         for (int user = 0; user < book.users.count; user++) {
-            int wealth = book.users.coins[user] + book.heldFor(user);
+            int wealth = book.users.coinsOf(user) + book.heldFor(user);
             if (wealth > most) {
                 most = wealth;
                 best = user;
@@ -330,7 +330,7 @@ public final class PieceDeposits {
         history.keep(book);
         int user = book.words.owners[word];
         book.endWord(word);
-        return book.users.coins[user];
+        return book.users.coinsOf(user);
     }
 
     public int recut(int word) throws IndexOutOfBoundsException {
@@ -356,7 +356,7 @@ public final class PieceDeposits {
         if (length == 0 || length > PIECE_LETTERS || book.pieces.numberOf(row) != NONE) {
             throw new IllegalArgumentException();
         }
-        if (book.pieces.isFull() || book.users.coins[user] < book.newPrice(length)) {
+        if (book.pieces.isFull() || book.users.coinsOf(user) < book.newPrice(length)) {
             throw new IllegalStateException();
         }
         history.keep(book);
@@ -382,13 +382,13 @@ public final class PieceDeposits {
         if (coins < 0 || coins > MAX_COINS) {
             throw new IllegalArgumentException();
         }
-        if (book.users.coins[user] < coins) {
+        if (book.users.coinsOf(user) < coins) {
             throw new IllegalStateException();
         }
         history.keep(book);
-        book.users.coins[user] -= coins;
-        book.users.coins[other] += coins;
-        return book.users.coins[other];
+        book.users.give(user, -coins);
+        book.users.give(other, coins);
+        return book.users.coinsOf(other);
     }
 
     // ---- undo and snapshots
@@ -533,8 +533,8 @@ public final class PieceDeposits {
 
     private static final class Users {
         int count = 0;
-        final long[] names = new long[MAX_USERS];
-        final int[] coins = new int[MAX_USERS];
+        private final long[] names = new long[MAX_USERS];
+        private final int[] coins = new int[MAX_USERS];
 
         int numberOf(long name) {
             for (int user = 0; user < count; user++) {
@@ -556,6 +556,17 @@ public final class PieceDeposits {
             names[count] = name;
             coins[count] = coinsOfUser;
             count++;
+        }
+
+        int coinsOf(int user) {
+            return user >= 0 && user < count ? coins[user] : 0;
+        }
+
+        /** A negative number takes coins. */
+        void give(int user, int more) {
+            if (user >= 0 && user < count) {
+                coins[user] += more;
+            }
         }
 
         void copyFrom(Users other) {
@@ -842,7 +853,7 @@ public final class PieceDeposits {
             if (pieces.count + cutting.newPieces > MAX_PIECES) {
                 return TOO_MANY_PIECES;
             }
-            return users.coins[user] < costOf(cutting) ? TOO_FEW_COINS : NO_REASON;
+            return users.coinsOf(user) < costOf(cutting) ? TOO_FEW_COINS : NO_REASON;
         }
 
         /** Whoever calls this has looked before that nothing refuses it. */
@@ -857,7 +868,7 @@ public final class PieceDeposits {
                 pieces.beginUse(piece);
             }
             int deposits = depositsFor(cutting.count);
-            users.coins[user] -= deposits;
+            users.give(user, -deposits);
             fund += deposits;
             sums[DEPOSITS_PAID] += deposits;
             return word;
@@ -865,7 +876,7 @@ public final class PieceDeposits {
 
         int buyPiece(int user, long row) {
             int price = newPrice(Letters.lengthOf(row));
-            users.coins[user] -= price;
+            users.give(user, -price);
             chest += price;
             sums[PRICES_PAID] += price;
             sums[PIECES_CAME]++;
@@ -899,7 +910,7 @@ public final class PieceDeposits {
         }
 
         private void giveBack(int user, int deposits) {
-            users.coins[user] += deposits;
+            users.give(user, deposits);
             fund -= deposits;
             sums[DEPOSITS_BACK] += deposits;
         }
@@ -921,7 +932,7 @@ public final class PieceDeposits {
 
         private void sendBack(int piece) {
             int refund = pieces.prices[piece] * settings[REFUND] / 100;
-            users.coins[pieces.owners[piece]] += refund;
+            users.give(pieces.owners[piece], refund);
             chest -= refund;
             sums[REFUNDS] += refund;
             sums[PIECES_WENT]++;

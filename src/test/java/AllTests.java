@@ -19,6 +19,7 @@ public final class AllTests {
         UndoEdgeTest.run();
         RefusalTest.run();
         FullTest.run();
+        TogetherTest.run();
         FaceTest.run();
         ModelTest.run();
         System.out.println(Check.right() + " passed, " + Check.wrong() + " failed");

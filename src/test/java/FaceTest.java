@@ -22,8 +22,12 @@ final class FaceTest {
 
     static void run() throws IOException {
         sameFace();
+        constantAndConstructor();
         noOtherMembers();
+        namesOfTheFace();
+        atMost7Parameters();
         forbiddenSigns();
+        allowedImports();
     }
 
     private static String read(Path path) throws IOException {
@@ -31,14 +35,13 @@ final class FaceTest {
     }
 
     private static void sameFace() throws IOException {
-        String text = read(DOCUMENT);
-        Matcher m = Pattern.compile("    public int (\\w+)\\((.*?)\\)( throws [\\w, ]+)?;").matcher(
-                text.replace("public boolean", "public int"));
+        Matcher m = Pattern.compile("    public (int|boolean) (\\w+)\\((.*?)\\)( throws [\\w, ]+)?;")
+                .matcher(read(DOCUMENT));
         List<String> due = new ArrayList<>();
         while (m.find()) {
-            int count = m.group(2).isEmpty() ? 0 : m.group(2).split(",").length;
-            String errors = m.group(3) == null ? "" : m.group(3).substring(8);
-            due.add(m.group(1) + " " + count + " " + errors);
+            String types = m.group(3).replaceAll(" \\w+(,|$)", "$1");
+            due.add(m.group(1) + " " + m.group(2) + "(" + types + ")"
+                    + (m.group(4) == null ? "" : m.group(4)));
         }
         List<String> got = new ArrayList<>();
         for (Method method : PieceDeposits.class.getDeclaredMethods()) {
@@ -53,68 +56,111 @@ final class FaceTest {
     }
 
     private static String signature(Method method) {
+        List<String> types = new ArrayList<>();
+        for (Class<?> type : method.getParameterTypes()) {
+            types.add(type.getName());
+        }
         List<String> errors = new ArrayList<>();
         for (Class<?> error : method.getExceptionTypes()) {
             errors.add(error.getSimpleName());
         }
-        boolean isBoolean = method.getName().equals("isWhole")
-                || method.getName().equals("saveSnapshot");
-        Check.dueText("type of " + method.getName(), method.getReturnType().getName(),
-                isBoolean ? "boolean" : "int");
-        return method.getName() + " " + method.getParameterCount() + " "
-                + String.join(", ", errors);
+        return method.getReturnType().getName() + " " + method.getName() + "("
+                + String.join(", ", types) + ")"
+                + (errors.isEmpty() ? "" : " throws " + String.join(", ", errors));
     }
 
+    private static void constantAndConstructor() {
+        int constants = 0;
+        for (Field field : PieceDeposits.class.getDeclaredFields()) {
+            if (field.getName().equals("NONE")) {
+                constants++;
+                Check.due("NONE", field.getModifiers(),
+                        Modifier.PUBLIC | Modifier.STATIC | Modifier.FINAL);
+                Check.dueText("type of NONE", field.getType().getName(), "int");
+            }
+        }
+        Check.due("NONE is there", constants, 1);
+        Constructor<?>[] constructors = PieceDeposits.class.getDeclaredConstructors();
+        Check.due("constructors", constructors.length, 1);
+        Check.due("a public one", constructors[0].getModifiers(), Modifier.PUBLIC);
+        Check.due("without parameters", constructors[0].getParameterCount(), 0);
+        Check.due("nor exceptions", constructors[0].getExceptionTypes().length, 0);
+    }
+
+    /** No other public, protected or package-visible member, but for the classes inside. */
     private static void noOtherMembers() {
         Class<?> face = PieceDeposits.class;
         Check.due("public final", face.getModifiers(), Modifier.PUBLIC | Modifier.FINAL);
+        Check.due("no class above it", face.getSuperclass() == Object.class, true);
+        Check.due("no interfaces", face.getInterfaces().length, 0);
         for (Field field : face.getDeclaredFields()) {
             Check.due(field.getName() + " is private or NONE", field.getName().equals("NONE")
                     || Modifier.isPrivate(field.getModifiers()), true);
         }
-        List<String> names = new ArrayList<>();
         for (Method method : face.getDeclaredMethods()) {
+            Check.due(method.getName() + " is public or private",
+                    Modifier.isPublic(method.getModifiers())
+                    || Modifier.isPrivate(method.getModifiers()), true);
+        }
+        for (Class<?> inside : face.getDeclaredClasses()) {
+            int open = Modifier.PUBLIC | Modifier.PROTECTED;
+            Check.due(inside.getName() + " is open", inside.getModifiers() & open, 0);
+        }
+    }
+
+    /** No private method bears the name of a public one. */
+    private static void namesOfTheFace() {
+        List<String> names = new ArrayList<>();
+        for (Method method : PieceDeposits.class.getDeclaredMethods()) {
             if (Modifier.isPublic(method.getModifiers())) {
                 names.add(method.getName());
             }
         }
-        for (Method method : face.getDeclaredMethods()) {
-            boolean open = Modifier.isPublic(method.getModifiers());
-            Check.due(method.getName() + " is public or private", open
-                    || Modifier.isPrivate(method.getModifiers()), true);
-        }
-        Constructor<?>[] constructors = face.getDeclaredConstructors();
-        Check.due("constructors", constructors.length, 1);
-        Check.due("public", Modifier.isPublic(constructors[0].getModifiers()), true);
-        for (Class<?> inside : face.getDeclaredClasses()) {
-            Check.due(inside.getName() + " is private and static", inside.getModifiers(),
-                    Modifier.PRIVATE | Modifier.STATIC | Modifier.FINAL);
-            for (Method method : inside.getDeclaredMethods()) {
-                Check.due(method.getName() + " is no name of the face",
-                        names.contains(method.getName()), false);
+        for (Class<?> each : classes()) {
+            for (Method method : each.getDeclaredMethods()) {
+                if (Modifier.isPrivate(method.getModifiers())) {
+                    Check.due(method.getName() + " is a name of the face",
+                            names.contains(method.getName()), false);
+                }
             }
         }
     }
 
+    private static void atMost7Parameters() {
+        for (Class<?> each : classes()) {
+            for (Method method : each.getDeclaredMethods()) {
+                Check.due("parameters of " + method.getName(), method.getParameterCount() <= 7,
+                        true);
+            }
+        }
+    }
+
+    private static List<Class<?>> classes() {
+        List<Class<?>> all = new ArrayList<>(List.of(PieceDeposits.class.getDeclaredClasses()));
+        all.add(PieceDeposits.class);
+        return all;
+    }
+
     private static void forbiddenSigns() throws IOException {
         String source = read(SOURCE);
-        String[] forbidden = {"->", "::", "Exact(", "catch", "finally", "synchronized", "assert ",
-            "static {", "package ", "%", "instanceof", "System.out", "Random", "nanoTime",
-            "currentTimeMillis", "java.io", "java.nio", "Thread", ".equals("};
+        String[] forbidden = {"->", "::", "Exact(", "finally", "synchronized", "assert ",
+            "static {", "package ", "System.out", "Random", "nanoTime", "currentTimeMillis",
+            "java.io", "java.nio", "Thread", "ArrayIndexOutOfBounds", "NullPointer",
+            "ClassCastException", "NegativeArraySize", "ArrayStoreException", "Throwable"};
         for (String sign : forbidden) {
             Check.due("the source holds " + sign, source.contains(sign), false);
         }
-        Check.dueText("imports", imports(source), "import java.util.Arrays;");
         Check.due("signs are plain", source.chars().allMatch(c -> c == '\n' || c >= 32 && c < 127),
                 true);
     }
 
-    private static String imports(String source) {
-        StringBuilder all = new StringBuilder();
-        Matcher m = Pattern.compile("(?m)^import .*$").matcher(source);
+    /** The library's classes that stand in ../shared/LANGUAGE.md. */
+    private static void allowedImports() throws IOException {
+        List<String> allowed = List.of("java.util.Arrays", "java.util.ArrayList", "java.util.List",
+                "java.util.Iterator", "java.util.NoSuchElementException");
+        Matcher m = Pattern.compile("(?m)^import (.*);").matcher(read(SOURCE));
         while (m.find()) {
-            all.append(m.group());
+            Check.due("import of " + m.group(1), allowed.contains(m.group(1)), true);
         }
-        return all.toString();
     }
 }
